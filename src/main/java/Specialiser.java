@@ -949,12 +949,13 @@ public final class Specialiser {
         }
 
         /**
-         * Calls were opened ahead of their arguments, so they come here in the order of the text; this is the order
-         * of the FAULTS too, and a NAME alone that is missing comes ahead of all calls behind it.
+         * Calls were opened ahead of their arguments, so they come here in the order of the text, which is that of
+         * the FAULTS; so those behind a NAME alone that is missing need not be looked at.
          */
         private void leadCalls() {
+            int last = missing == NONE ? MOST_TOKENS : missing;
             for (int node = 0; node < trees.count() && fault == 0; node++) {
-                if (trees.kind(node) == CALL) {
+                if (trees.kind(node) == CALL && trees.value(node) < last) {
                     leadCall(node, trees.value(node));
                 }
             }
@@ -965,9 +966,7 @@ public final class Specialiser {
 
         private void leadCall(int call, int token) {
             int f = functionNames.lastOf(tokens.value(token), text.count());
-            if (missing != NONE && missing < token) {
-                faultAt(FAULT_NOT_THERE, missing);
-            } else if (f == NONE) {
+            if (f == NONE) {
                 faultAt(FAULT_NOT_THERE, token);
             } else if (trees.parts(call) != text.params(f)) {
                 faultAt(FAULT_ARGUMENTS, token);
@@ -1046,7 +1045,7 @@ public final class Specialiser {
                         finish(trees.value(node));
                         break;
                     case NAME:
-                        finish(slots.at(slot(node)));
+                        finish(slots.at(slot(trees.value(node))));
                         break;
                     case LET:
                         goOnLet(node, turn);
@@ -1089,15 +1088,15 @@ public final class Specialiser {
             }
         }
 
-        private int slot(int node) {
-            return frames.at(depth) * MOST_NAMES + trees.values.at(node);
+        private int slot(int name) {
+            return frames.at(depth) * MOST_NAMES + name;
         }
 
         private void goOnLet(int node, int turn) {
             if (turn == 0) {
                 begin(trees.part(node, 0), frames.at(depth));
             } else if (turn == 1) {
-                slots.put(slot(node), result);
+                slots.put(slot(trees.value(node)), result);
                 begin(trees.part(node, 1), frames.at(depth));
             } else {
                 finish(result);
@@ -1188,7 +1187,7 @@ public final class Specialiser {
             return true;
         }
 
-        private static boolean isIn(int mask, int i) {
+        static boolean isIn(int mask, int i) {
             return (mask >> i & 1) == 1;
         }
 

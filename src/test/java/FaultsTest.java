@@ -134,6 +134,7 @@ public final class FaultsTest {
         fault(2, "f() = 1  \n@");
         fault(2, "f() = -@");
         fault(2, "f() = 1 +@");
+        fault(2, "f() = 1 ==@");
         fault(2, "f() = let a@");
         fault(2, "f() = if 1 then 2@");
         fault(2, "f() = f(@");
@@ -245,6 +246,12 @@ public final class FaultsTest {
         fault(6, "f(a) = " + times("if 1 then 2 else ", 23) + "if @1 then 2 else 3;");
         whole(1, "f(a) = " + times("if ", 23) + "1" + times(" then 2 else 3", 23) + ";");
         fault(6, "f(a) = " + times("if ", 24) + "@1;");
+        whole(1, "f(a) = " + times("if 1 then ", 23) + "2" + times(" else 3", 23) + ";");
+        fault(6, "f(a) = " + times("(", 23) + "if @1;");
+        fault(6, "f(a) = " + times("if 1 then ", 22) + "if 1 then (@2);");
+        fault(6, "f(a) = " + times("if 1 then 2 else ", 22) + "if 1 then 2 else (@2);");
+        whole(1, "f(a, b) = " + times("f(1, ", 23) + "b" + times(")", 23) + ";");
+        fault(6, "f(a, b) = " + times("f(1, ", 22) + "f(1, (@b" + times(")", 24) + ";");
         fault(6, "f(a) = " + times("(", 9) + lets(14) + "let y = @1 in y;");
         whole(1, "f(a) = " + times("(", 8) + lets(15) + "y" + times(")", 8) + ";");
         whole(1, "f(a) = " + times("1 < 2 + 3*f(", 23) + "1 == 2 - 3*4" + times(")", 23) + ";");
@@ -308,6 +315,8 @@ public final class FaultsTest {
         Checks.gives("out there before", 'v', () -> x.out(0));
         Checks.gives("run of what was made before", 1, () -> x.run(true, 0, 10));
         Checks.gives("what it gave", 8, () -> x.ran(0));
+        Checks.tape(x, "h() = y;");
+        Checks.gives("read with another fault", -4, () -> x.read());
         Checks.gives("read of an empty tape", -2, () -> x.read());
         Checks.gives("place in an empty tape", 0, () -> x.place());
         Checks.tape(x, "h() = 3;");

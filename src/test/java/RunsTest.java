@@ -108,6 +108,10 @@ public final class RunsTest {
         x.give(80);
         Checks.gives("run beyond depth 160", 3, () -> x.run(false, 0, 20000));
         Checks.ran("run beyond depth 160", x, 0, 477, 160);
+        Specialiser z = Checks.having("f(p) = d(p); d(n) = if n then d(n - 1) else g(7); g(x) = x;");
+        z.give(78);
+        Checks.gives("run with a call at depth 159", 1, () -> z.run(false, 0, 20000));
+        Checks.ran("run with a call at depth 159", z, 7, 2 + 78 * 6 + 5, 160);
         Specialiser y = Checks.having("f(a) = f(a);");
         y.give(3);
         Checks.gives("run without an end", 3, () -> y.run(false, 0, 20000));

@@ -82,6 +82,19 @@ public final class TapeTest {
         Checks.argument("cut(1) of what was read", () -> x.cut(1));
         x.feed(0, 0, 0, 0, 0);
         Checks.gives("cut(0)", 20, () -> x.cut(0));
+        cutWithinAToken(x);
+    }
+
+    /** What was cut off is not seen any more, not even as the rest of a TOKEN. */
+    private static void cutWithinAToken(Specialiser x) {
+        Checks.tape(x, "f() == 1;");
+        x.cut(5);
+        Checks.gives("read of f() =", -2, () -> x.read());
+        Checks.gives("place", 5, () -> x.place());
+        Checks.tape(x, "f() = 12a");
+        x.cut(8);
+        Checks.gives("read of f() = 12", -2, () -> x.read());
+        Checks.gives("place", 8, () -> x.place());
     }
 
     private static void function() {
@@ -133,7 +146,7 @@ public final class TapeTest {
         x.make(0);
         String due = "v0(a) = (let x0 = (a * 3) in (x0 + (-2147483647 - 1)));\n";
         Checks.same("printed", Checks.out(x), due);
-        Checks.tape(x, "something else that goes");
+        Checks.tape(x, "$ something else that goes");
         Checks.gives("back", due.length(), () -> x.back());
         Checks.gives("the tape", due.length(), () -> x.told(7));
         Checks.gives("the first byte of out stays", 'v', () -> x.out(0));

@@ -18,6 +18,7 @@ public final class VersionsTest {
         sharing();
         boundOfVersions();
         generalVersionThere();
+        deepestTree();
         boundOfGoneThrough();
         whatAThrownMakeLeaves();
         version();
@@ -201,6 +202,19 @@ public final class VersionsTest {
         made(due.toString(), "f(x) = u(x, x) + u(0, x); u(n, x) = if n == x then u(n + 1, x) else x;", 0);
     }
 
+    /** As many EXPRESSIONS within one another as a text can have, made and PRINTED. */
+    private static void deepestTree() {
+        String text = "f(p) = " + "p < 2 + 3*f(".repeat(23) + "p == 2 - 3*f(p)" + ")".repeat(23) + ";";
+        Specialiser x = Checks.having("f(p) = " + "p < 2 + 3*g(".repeat(23) + "p == 2 - 3*h()" + ")".repeat(23)
+                + "; g(p) = p; h() = h();");
+        Checks.gives("make", 3, () -> x.make(0));
+        String due = "v0(a) = " + "(a < (2 + (3 * v2(".repeat(23) + "(a == (2 - (3 * v1())))" + "))))".repeat(23) + ";\n";
+        Checks.same("print", Checks.out(x), due + "v1() = v1();\nv2(a) = a;\n");
+        Specialiser y = new Specialiser();
+        Checks.tape(y, text);
+        Checks.gives("one call deeper", -6, () -> y.read());
+    }
+
     /** 27 FUNCTIONS with 36 EXPRESSIONS, each calling the next, then one with 17 and those of the last E. */
     private static String thousand(String last) {
         String e15 = "a*a+a*a<a*a+a*a";
@@ -255,6 +269,11 @@ public final class VersionsTest {
         Checks.gives("what stayed known goes with the next make", 1, () -> x.make(29));
         Checks.gives("nothing is known", 0, () -> x.told(5));
         Checks.gives("the number of now", 5, () -> x.version(0, 6));
+        Specialiser y = Checks.having("g(a) = a; f() = g(1) + g(2);");
+        y.make(1);
+        y.make(1);
+        Checks.gives("tried in the latest make alone", 2, () -> y.told(2));
+        Checks.gives("well tried in the latest make alone", 2, () -> y.told(3));
     }
 
     private static void version() {
