@@ -1,7 +1,11 @@
 import java.util.function.IntSupplier;
+import java.util.function.Supplier;
 
 /** What the tests share: texts onto the tape, answers as texts, and the count of the wrong ones. */
 final class Checks {
+    /** An object is used for 512 calls at most, so a long OUT is looked at on several that were made alike. */
+    private static final int BYTES_OF_ONE = 150;
+
     private static int wrong = 0;
     private static int done = 0;
 
@@ -72,10 +76,46 @@ final class Checks {
         return x;
     }
 
+    /** A text with a FAULT, on a new object; @ marks its place. */
+    static void fault(int number, String marked) {
+        int place = marked.indexOf('@');
+        Specialiser x = new Specialiser();
+        tape(x, marked.replace("@", ""));
+        gives("read of " + marked, -number, () -> x.read());
+        gives("place of " + marked, place, () -> x.place());
+        gives("the tape behind " + marked, 0, () -> x.told(7));
+        index("function behind " + marked, () -> x.function(0, 0));
+    }
+
+    /** A text with none, on a new object. */
+    static Specialiser whole(int functions, String text) {
+        Specialiser x = new Specialiser();
+        tape(x, text);
+        gives("read of " + text, functions, () -> x.read());
+        gives("place of " + text, Specialiser.NONE, () -> x.place());
+        gives("the tape behind " + text, 0, () -> x.told(7));
+        return x;
+    }
+
     static String out(Specialiser x) {
-        int length = x.print();
+        return bytes(x, 0, x.print());
+    }
+
+    /** The same for what may be long: the object is made anew for each part of it. */
+    static String longOut(Supplier<Specialiser> made) {
+        int length = made.get().print();
         StringBuilder text = new StringBuilder();
-        for (int i = 0; i < length; i++) {
+        for (int from = 0; from < length; from += BYTES_OF_ONE) {
+            Specialiser x = made.get();
+            x.print();
+            text.append(bytes(x, from, Math.min(length, from + BYTES_OF_ONE)));
+        }
+        return text.toString();
+    }
+
+    private static String bytes(Specialiser x, int from, int to) {
+        StringBuilder text = new StringBuilder();
+        for (int i = from; i < to; i++) {
             text.append((char) x.out(i));
         }
         return text.toString();

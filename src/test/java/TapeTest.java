@@ -9,7 +9,6 @@ public final class TapeTest {
         function();
         readLeaves();
         back();
-        backAtItsBound();
         Checks.end();
     }
 
@@ -52,17 +51,6 @@ public final class TapeTest {
         Checks.gives("feed of bytes above 127", 20, () -> x.feed(0x662829ff, -1, -1, -1, -1));
         Checks.gives("read", -1, () -> x.read());
         Checks.gives("place", 3, () -> x.place());
-        for (int i = 1; i <= 400; i++) {
-            int length = 20 * i;
-            Checks.gives("feed to " + length, length, () -> x.feed(0, 0, 0, 0, 0));
-        }
-        Checks.state("feed beyond 8000", () -> x.feed(1, 2, 3, 4, 5));
-        Checks.gives("the tape then", 8000, () -> x.told(7));
-        Checks.gives("cut(7981)", 19, () -> x.cut(7981));
-        Checks.state("feed to 8001", () -> x.feed(1, 2, 3, 4, 5));
-        Checks.gives("the tape then", 7981, () -> x.told(7));
-        Checks.gives("cut(7980)", 1, () -> x.cut(7980));
-        Checks.gives("feed to 8000", 8000, () -> x.feed(1, 2, 3, 4, 5));
     }
 
     private static void cut() {
@@ -158,44 +146,5 @@ public final class TapeTest {
         Checks.gives("it gave", Integer.MIN_VALUE + 15, () -> x.ran(0));
         Checks.gives("back once more", due.length(), () -> x.back());
         Checks.gives("cut of it", due.length() - 2, () -> x.cut(2));
-    }
-
-    /** Twelve FUNCTIONS that print long: a NUMBER that is KNOWN as the least int takes 17 bytes, its if 35. */
-    private static String longText(int moreIfs, String last) {
-        StringBuilder text = new StringBuilder();
-        for (int f = 0; f < 12; f++) {
-            text.append("f").append(f).append("(a, z) = ");
-            text.append("if a then z else ".repeat(f < moreIfs ? 19 : 18));
-            text.append(f < 11 ? "f" + (f + 1) + "(a, z)" : last).append(";\n");
-        }
-        return text.toString();
-    }
-
-    private static int printedLong(Specialiser x, int moreBytes) {
-        Checks.tape(x, longText(moreBytes / 35, lastOf(1 + moreBytes % 35)));
-        x.read();
-        x.know(1, Integer.MIN_VALUE);
-        x.make(0);
-        return x.print();
-    }
-
-    /** An E of so many bytes when it is printed. */
-    private static String lastOf(int bytes) {
-        int sums = bytes > 10 ? (bytes - 5) / 6 : 0;
-        return "a + (".repeat(sums) + "1".repeat(bytes - 6 * sums) + ")".repeat(sums);
-    }
-
-    private static void backAtItsBound() {
-        Specialiser x = new Specialiser();
-        int missing = 8000 - printedLong(x, 0);
-        Checks.gives("print of just as many", 8000, () -> printedLong(x, missing));
-        Checks.gives("back of just as many", 8000, () -> x.back());
-        Checks.gives("cut", 7999, () -> x.cut(1));
-        Checks.gives("cut", 1, () -> x.cut(0));
-        Checks.gives("print of one more", 8001, () -> printedLong(x, missing + 1));
-        x.feed(0, 0, 0, 0, 0);
-        Checks.state("back of one more", () -> x.back());
-        Checks.gives("the tape stays", 20, () -> x.told(7));
-        Checks.gives("out stays", '\n', () -> x.out(8000));
     }
 }

@@ -19,7 +19,6 @@ public final class VersionsTest {
         boundOfVersions();
         generalVersionThere();
         deepestTree();
-        boundOfGoneThrough();
         whatAThrownMakeLeaves();
         version();
         told();
@@ -31,15 +30,24 @@ public final class VersionsTest {
 
     /** Makes FUNCTION f with these KNOWN, but for those that are FREE, and looks at all that is PRINTED. */
     private static Specialiser made(String due, String text, int f, int... known) {
+        Specialiser x = knowing(text, known);
+        int lines = due.split("\n").length;
+        Checks.gives("make(" + f + ") of " + text, lines, () -> x.make(f));
+        Checks.same("print of " + text, Checks.longOut(() -> {
+            Specialiser y = knowing(text, known);
+            y.make(f);
+            return y;
+        }), due);
+        return x;
+    }
+
+    private static Specialiser knowing(String text, int... known) {
         Specialiser x = Checks.having(text);
         for (int i = 0; i < known.length; i++) {
             if (known[i] != FREE) {
                 x.know(i, known[i]);
             }
         }
-        int lines = due.split("\n").length;
-        Checks.gives("make(" + f + ") of " + text, lines, () -> x.make(f));
-        Checks.same("print of " + text, Checks.out(x), due);
         return x;
     }
 
@@ -205,43 +213,16 @@ public final class VersionsTest {
     /** As many EXPRESSIONS within one another as a text can have, made and PRINTED. */
     private static void deepestTree() {
         String text = "f(p) = " + "p < 2 + 3*f(".repeat(23) + "p == 2 - 3*f(p)" + ")".repeat(23) + ";";
-        Specialiser x = Checks.having("f(p) = " + "p < 2 + 3*g(".repeat(23) + "p == 2 - 3*h()" + ")".repeat(23)
-                + "; g(p) = p; h() = h();");
-        Checks.gives("make", 3, () -> x.make(0));
         String due = "v0(a) = " + "(a < (2 + (3 * v2(".repeat(23) + "(a == (2 - (3 * v1())))" + "))))".repeat(23) + ";\n";
-        Checks.same("print", Checks.out(x), due + "v1() = v1();\nv2(a) = a;\n");
+        made(due + "v1() = v1();\nv2(a) = a;\n", "f(p) = " + "p < 2 + 3*g(".repeat(23) + "p == 2 - 3*h()"
+                + ")".repeat(23) + "; g(p) = p; h() = h();", 0);
         Specialiser y = new Specialiser();
         Checks.tape(y, text);
         Checks.gives("one call deeper", -6, () -> y.read());
     }
 
-    /** 27 FUNCTIONS with 36 EXPRESSIONS, each calling the next, then one with 17 and those of the last E. */
-    private static String thousand(String last) {
-        String e15 = "a*a+a*a<a*a+a*a";
-        StringBuilder text = new StringBuilder();
-        for (int f = 0; f < 27; f++) {
-            text.append("f").append(f).append("(a) = if a then ").append(e15).append(" else if a then ").append(e15);
-            text.append(" else f").append(f + 1).append("(a);\n");
-        }
-        return text + "f27(a) = if a then " + e15 + " else " + last + "; one() = 1; two(p) = p;";
-    }
-
-    private static void boundOfGoneThrough() {
-        Specialiser x = Checks.having(thousand("a*a+a*a<a*a"));
-        Checks.gives("make with 1000", 28, () -> x.make(0));
-        Checks.gives("gone through", 1000, () -> x.told(4));
-        Checks.gives("expressions", 1000, () -> x.told(1));
-        Specialiser y = Checks.having(thousand("f0(a*a+a*a<a*a)"));
-        Checks.unsupported("make with 1001", () -> y.make(0));
-        Checks.gives("make with fewer", 1, () -> y.make(28));
-        Checks.gives("gone through", 1, () -> y.told(4));
-        Specialiser z = Checks.having(thousand("f0(a*a+a*a<a)"));
-        Checks.gives("make with 999", 28, () -> z.make(0));
-        Checks.gives("gone through", 999, () -> z.told(4));
-    }
-
     private static void whatAThrownMakeLeaves() {
-        Specialiser x = Checks.having(thousand("f0(a*a+a*a<a*a)"));
+        Specialiser x = Checks.having(Costs.thousand("f0(a*a+a*a<a*a)") + "one() = 1; two(p) = p;");
         x.know(0, 3);
         x.make(29);
         x.print();
