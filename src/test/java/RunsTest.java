@@ -7,6 +7,7 @@ public final class RunsTest {
         give();
         expressions();
         names();
+        order();
         ends();
         endsByDepth();
         firstOfTwoEnds();
@@ -80,6 +81,27 @@ public final class RunsTest {
         done("f(a) = let b = g(a) in b + a; g(a) = let b = a*a in b + 1;", 31, 13, 5, 5);
         done("f(g) = g(g) - g; g(f) = f*10;", 36, 7, 4, 4);
         done("f(a, b, c, d) = g(d, c, b, a); g(a, b, c, d) = ((a*10 + b)*10 + c)*10 + d;", 4321, 18, 8, 1, 2, 3, 4);
+    }
+
+    /** What comes first is seen by the DEPTH that so few STEPS have come to. */
+    private static void order() {
+        String deep = "(1 + (1 + (1 + 1)))";
+        comesTo(4, "f() = " + deep + "*1;", 6);
+        comesTo(2, "f() = 1*" + deep + ";", 3);
+        comesTo(4, "f() = g(" + deep + ", 1); g(a, b) = a;", 6);
+        comesTo(2, "f() = g(1, " + deep + "); g(a, b) = a;", 3);
+        comesTo(3, "f() = g(1, 1, " + deep + "); g(a, b, c) = a;", 5);
+        comesTo(2, "f() = g(1, 1); g(a, b) = " + deep + ";", 4);
+        comesTo(4, "f() = let y = " + deep + " in 1;", 6);
+        comesTo(2, "f() = let y = 1 in " + deep + ";", 3);
+        comesTo(4, "f() = if " + deep + " then 1 else 1;", 6);
+        comesTo(2, "f() = if 1 then " + deep + " else 1;", 3);
+    }
+
+    private static void comesTo(int depth, String text, int steps) {
+        Specialiser x = Checks.having(text);
+        Checks.gives("run of " + text, 2, () -> x.run(false, 0, steps));
+        Checks.ran("run of " + text, x, 0, steps, depth);
     }
 
     private static void ends() {

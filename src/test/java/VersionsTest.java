@@ -13,6 +13,7 @@ public final class VersionsTest {
         expressions();
         lets();
         calls();
+        order();
         triedCalls();
         triedDepth();
         sharing();
@@ -141,6 +142,19 @@ public final class VersionsTest {
         made("v0(a, b) = v1(b, a);\nv1(a, b) = (if a then v0(b, a) else v1(b, a));\n",
                 "f(p, q) = g(q, p); g(a, b) = if a then f(b, a) else g(b, a);", 0);
         made("v0(a) = v1();\nv1() = v1();\n", "f(p) = g(); g() = g();", 0);
+    }
+
+    /** VERSIONS are numbered as they come, VERSION by VERSION. */
+    private static void order() {
+        String ghk = " g(a) = a + 1; h(a) = a + 2; k(a) = a + 3;";
+        String three = "v1(a) = (a + 1);\nv2(a) = (a + 2);\nv3(a) = (a + 3);\n";
+        made("v0(a) = (if v1(a) then v2(a) else v3(a));\n" + three, "f(p) = if g(p) then h(p) else k(p);" + ghk, 0);
+        made("v0(a) = (v1(a) * (v2(a) - v3(a)));\n" + three, "f(p) = g(p)*(h(p) - k(p));" + ghk, 0);
+        made("v0(a) = (let x0 = v1(a) in (v2(x0) == v3(a)));\n" + three, "f(p) = let y = g(p) in h(y) == k(p);" + ghk, 0);
+        made("v0(a) = v4(v1(a), v2(a), v3(a));\n" + three + "v4(a, b, c) = a;\n",
+                "f(p) = l(g(p), h(p), k(p)); l(a, b, c) = a;" + ghk, 0);
+        made("v0(a) = (v1(a) + v2(a));\nv1(a) = v3(a);\nv2(a) = v4(a);\nv3(a) = a;\nv4(a) = (a * a);\n",
+                "f(p) = g(p) + h(p); g(a) = k(a); h(a) = l(a); k(a) = a; l(a) = a*a;", 0);
     }
 
     private static void triedCalls() {
