@@ -51,7 +51,7 @@ public final class DecisionsTest {
 
     /**
      * "Of the latest make() that did not throw": a read() is no make(), so 0 to 4 still speak of the one before it;
-     * of 5 to 7 alone it is said that they speak of now.
+     * of 5 and 6 alone it is said that they speak of now.
      */
     private static void toldBehindARead() {
         Specialiser x = Checks.having(POWER);
