@@ -16,6 +16,8 @@ public final class Specialiser {
     private static final int MOST_WITHIN = 24;
     private static final int LONGEST_NAME = 8;
     private static final int LONGEST_NUMBER = 10;
+    private static final int GREATEST_NUMBER = 2147483647;
+    private static final int LEAST_NUMBER = -2147483648;
     private static final int MOST_STEPS = 20000;
     private static final int MOST_DEPTH = 160;
     private static final int STEPS_TRIED = 500;
@@ -451,7 +453,7 @@ public final class Specialiser {
                 return size <= LONGEST_NAME ? keep(wordKind(packed), packed, size) : keep(NO_TOKEN, 0, size);
             }
             // The size comes first: a longer row has run over in number.
-            boolean fits = digitsAlone && size <= LONGEST_NUMBER && number <= Integer.MAX_VALUE;
+            boolean fits = digitsAlone && size <= LONGEST_NUMBER && number <= GREATEST_NUMBER;
             return fits ? keep(NUMBER, number, size) : keep(NO_TOKEN, 0, size);
         }
 
@@ -1509,7 +1511,7 @@ public final class Specialiser {
 
         /** The least int has no figures that could be read again. */
         private void showNumber(int number) {
-            if (number == Integer.MIN_VALUE) {
+            if (number == LEAST_NUMBER) {
                 putText("(-2147483647 - 1)");
             } else {
                 putNumber(number);

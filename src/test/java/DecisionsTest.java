@@ -22,6 +22,8 @@ public final class DecisionsTest {
         bracketsAreWithin();
         leastIntInARest();
         outIsAsLongAsTheLatestPrint();
+        outOverABack();
+        signsAreThoseThatAreNamed();
         Checks.end();
     }
 
@@ -268,5 +270,35 @@ public final class DecisionsTest {
         Checks.gives("print of fewer", 10, () -> x.print());
         Checks.index("out behind it", () -> x.out(10));
         Checks.gives("back", 10, () -> x.back());
+    }
+
+    /** "THE OUT's bytes become THE TAPE": of read() it is said that THE TAPE is empty then, of THE OUT here it is not. */
+    private static void outOverABack() {
+        Specialiser x = Checks.having("f(a) = a*a;");
+        x.make(0);
+        Checks.gives("print", 17, () -> x.print());
+        Checks.gives("back", 17, () -> x.back());
+        Checks.gives("out", 'v', () -> x.out(0));
+        Checks.gives("out", '\n', () -> x.out(16));
+        x.cut(0);
+        Checks.gives("back once more", 17, () -> x.back());
+        Checks.gives("the tape", 17, () -> x.told(7));
+    }
+
+    /**
+     * "The eleven SIGNS are == and = and the bytes ( ) , ; + - * < each alone": these are ten, and the lines of the
+     * grammar have no other; so all other bytes are none, and not a SIGN that can't stand there.
+     */
+    private static void signsAreThoseThatAreNamed() {
+        for (char sign : "!\"#$%&'./:>?[\\]^_`{|}~".toCharArray()) {
+            Checks.fault(1, "f(a) = a @" + sign + " a;");
+            Checks.fault(1, "f(a) = @" + sign + "a;");
+        }
+        for (String sign : new String[] {"=", "(", ")", ","}) {
+            Checks.fault(2, "f(a) = a + 1 @" + sign + " a;");
+        }
+        for (String sign : new String[] {"==", "+", "-", "*", "<"}) {
+            Checks.whole(1, "f(a) = a " + sign + " a;");
+        }
     }
 }

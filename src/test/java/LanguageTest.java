@@ -9,6 +9,7 @@ import java.nio.file.Files;
 import java.nio.file.Path;
 import java.util.ArrayList;
 import java.util.Arrays;
+import java.util.HashSet;
 import java.util.IdentityHashMap;
 import java.util.List;
 import java.util.Map;
@@ -43,10 +44,17 @@ public final class LanguageTest {
         "catch \\((ArrayIndex|NullPointer|ClassCast|NegativeArray|ArrayStore|Exception|Throwable|RuntimeException)",
     };
 
+    /** All of rule 4 that the class uses; what is not listed there, Integer.MAX_VALUE for one, is ruled out. */
+    private static final Set<String> LIBRARY = Set.of("Integer.bitCount", "Math.max");
+    private static final Set<String> THROWN = Set.of("IllegalStateException", "IllegalArgumentException",
+            "IndexOutOfBoundsException", "ArithmeticException", "UnsupportedOperationException",
+            "NoSuchElementException", "RuntimeException");
+
     public static void main(String[] args) throws IOException, IllegalAccessException {
         face();
         privateNames();
         classes();
+        fieldTypes();
         source();
         room();
         Checks.end();
@@ -125,6 +133,19 @@ public final class LanguageTest {
         }
     }
 
+    /** Rules 3 and 5: numbers, arrays of them and own classes; constants of int and long alone. */
+    private static void fieldTypes() {
+        Set<Class<?>> types = new HashSet<>(allClasses());
+        types.addAll(List.of(int.class, long.class, boolean.class, int[].class, long[].class));
+        for (Class<?> c : allClasses()) {
+            for (Field f : c.getDeclaredFields()) {
+                boolean constant = f.getType() == int.class || f.getType() == long.class;
+                boolean may = Modifier.isStatic(f.getModifiers()) ? constant : types.contains(f.getType());
+                Checks.same(f + " is of a type that may be", may, true);
+            }
+        }
+    }
+
     private static void source() throws IOException {
         Path path = Path.of("src/main/java/Specialiser.java");
         String text = Files.readString(path, StandardCharsets.ISO_8859_1);
@@ -132,7 +153,32 @@ public final class LanguageTest {
         for (String pattern : RULED_OUT) {
             Checks.same("code has " + pattern, Pattern.compile(pattern).matcher(code).find(), false);
         }
+        library(code);
+        thrown(code);
         methodLengths(code.split("\n"));
+    }
+
+    private static void library(String code) {
+        Set<String> own = new TreeSet<>();
+        for (Class<?> c : allClasses()) {
+            own.add(c.getSimpleName());
+        }
+        Matcher use = Pattern.compile("\\b([A-Z]\\w*)\\.(\\w+)").matcher(code);
+        while (use.find()) {
+            boolean may = own.contains(use.group(1)) || LIBRARY.contains(use.group());
+            Checks.same(use.group() + " is in the library that may be used", may, true);
+        }
+    }
+
+    /** Rule 6: a written text alone; no try, so that nothing that the machine throws could be caught. */
+    private static void thrown(String code) {
+        Checks.same("code has a try", Pattern.compile("\\btry\\b").matcher(code).find(), false);
+        Pattern form = Pattern.compile("throw new (\\w+)\\(\"\"\\);");
+        Matcher one = Pattern.compile("\\bthrow\\b.*").matcher(code);
+        while (one.find()) {
+            Matcher whole = form.matcher(one.group());
+            Checks.same(one.group() + " may be thrown", whole.matches() && THROWN.contains(whole.group(1)), true);
+        }
     }
 
     private static void methodLengths(String[] lines) {
